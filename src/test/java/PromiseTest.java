@@ -48,7 +48,9 @@ public final class PromiseTest {
 
     /** What a sheet holds at i, if that is 0 to 9, by way of sheet 3; the circuit is SCALE from then on. */
     private static int seen(LoserPicks x, int sheet, int lane, int i) {
-        read(x, SCALE);
+        if (x.count(2) != 10) {
+            read(x, SCALE);
+        }
         x.sheet(3, lane, 2);
         x.copy(sheet, i, 3, 0, 1);
         int set = x.leans(0, 3, lane, 0, 1, 0);
@@ -104,15 +106,17 @@ public final class PromiseTest {
             "cp0,p0;0-;015;0 ", "cp0, p0;0-;015;0"};
         int[] places = {0, 0, 0, 0, 1, 1, 1, 1, 2, 2, 3, 3, 3, 4, 4, 6, 7, 18, 7, 7, 8, 8, 8, 11, 9, 10, 24, 10, 10, 10,
             11, 11, 11, 12, 12, 12, 13, 13, 14, 14, 14, 14, 14, 17, 15, 15, 15, 4};
+        for (int k = 0; k < faulty.length; k++) {
+            LoserPicks y = of(ALL);
+            hearAll(y, 2);
+            due(read(y, faulty[k]), -100 - places[k]);
+            due(y.count(8), 0);
+            due(y.count(0), 5);
+            due(y.count(3), 2);
+            due(y.count(7), 2);
+        }
         LoserPicks x = of(ALL);
         hearAll(x, 2);
-        for (int k = 0; k < faulty.length; k++) {
-            due(read(x, faulty[k]), -100 - places[k]);
-            due(x.count(8), 0);
-        }
-        due(x.count(0), 5);
-        due(x.count(3), 2);
-        due(x.count(7), 2);
         String cases = "019,109,019,109,019,109,019,109,019,109,019,109";
         String six = "p9,b9,s9,l9,f9,p9";
         due(read(x, "c" + six + ";95,94,93,92,91,90;" + cases + ",;5"), -100 - (1 + 17 + 1 + 17 + 1 + 47));
