@@ -294,6 +294,23 @@ public final class EdgeTest extends Checks {
             z.seat(3);
             hear(z, 7);
         }
+        sentence("17: as the IMAGE was, in all that is told of it");
+        LoserPicks first = of(ALL);
+        hear(first, 3);
+        first.image(0);
+        String then = shape(first);
+        hear(first, 2);
+        due(shape(first).equals(then) ? 1 : 0, 0);
+        first.restore(0);
+        due(shape(first).equals(then) ? 1 : 0, 1);
+        hear(first, 4);
+        first.image(1);
+        first.restore(0);
+        due(shape(first).equals(then) ? 1 : 0, 1);
+        first.restore(1);
+        due(first.count(6), 5);
+        due(first.trial(6, 3), 2);
+        due(first.party(0, 2), 2);
         sentence("17: the IMAGE of another CIRCUIT, of more or fewer of everything");
         read(z, MOST);
         due(z.image(0), 0);
@@ -303,6 +320,21 @@ public final class EdgeTest extends Checks {
         due(z.restore(0), 0);
         along(0, z::count, 6, 6, 12, 0, 5, 39, 0, 0, 0);
         due(z.party(5, 1), 4);
+    }
+
+    /** All that is told of ALL, but for what can be undone. */
+    private static String shape(LoserPicks x) {
+        StringBuilder all = new StringBuilder();
+        for (int what = 0; what < 7; what++) {
+            all.append(x.count(what)).append(' ');
+        }
+        for (int what = 0; what < 4; what++) {
+            for (int k = 0; k < 7; k++) {
+                all.append(x.party(k, what)).append(' ').append(x.judge(k, what)).append(' ');
+                all.append(x.trial(k, what)).append(' ');
+            }
+        }
+        return all.toString();
     }
 
     // ---- 3 foretold
@@ -472,6 +504,9 @@ public final class EdgeTest extends Checks {
             due(of("cs0,s0;0-;01" + weight + ";0").order(1, -1), weight >= 5 ? 1 : 0);
             due(of("cs0,s0;9-;01" + weight + ";0").order(1, -1), weight < 5 || weight == 9 ? 1 : 0);
         }
+        // a case that is won justly counts once, and none in place of another
+        due(of("cs0,s0;0-;015,010;0").order(2, -1), 1);
+        due(of("cs0,s0;0-;010,015,010;0").order(3, -1), 1);
         sentence("22: of several the first by their numbers, one by one");
         // only the one who loses case 2 brings the other judge, and the rest is won justly behind it alone
         LoserPicks z = of("cl0,l0,s0,s0;9-,0-;236,237,014,235;0");
@@ -562,6 +597,8 @@ public final class EdgeTest extends Checks {
         sentence("24: each JUDGE likes PARTIES by GRIEVANCE, the least first, of like ones by numbers");
         benches("cp4,p3,p4;5-;015;0", NONE, 0, NONE);
         benches("cp4,p4,p4;5-;015;0", 0, NONE, NONE);
+        benches("cp4,p4,p3;5-;015;0", NONE, NONE, 0);
+        benches("cp4,p4,p5,p5,p5,p3;5-,6-;015;0", 1, NONE, NONE, NONE, NONE, 0);
         benches("cp4,p5,p4;5-,6-;015;0", 0, NONE, 1);
         benches("cp4,p4,p3;5-,6-;015;0", 1, NONE, 0);
         benches("cp9,p0;5-,6-;015;0", 1, 0);
@@ -909,6 +946,12 @@ public final class EdgeTest extends Checks {
         due(same.leans(0, 0, 0, 2, 1, 1), 0);
         due(same.leans(0, 0, 0, 4, 1, 0), 1022);
         due(same.leans(0, 0, 0, 4, 1, 1), 1);
+        LoserPicks fewer = of(SCALE);
+        read(fewer, SCALE);
+        read(fewer, "cp0,p0;5-;019;0");
+        lay(fewer, 0, 0, 0, 0);
+        due(fewer.leans(0, 0, 0, 0, 1, 0), 1023);
+        due(fewer.leans(0, 0, 0, 0, 1, 1), 0);
         sentence("32: (of all), HEARD or not");
         hear(same, 6);
         due(same.leans(0, 0, 0, 0, 1, 1), 1);
@@ -979,7 +1022,11 @@ public final class EdgeTest extends Checks {
         sentence("33: TRY: the JUDGE to sit by whom the greatest part is least, of like ones the first");
         due(one.kinds(0, 0, 0, 0, 10, 1), 0);
         due(x.kinds(1, 0, 2, 2, 1, 1), 0);
-        // bitter or feared, of which 3 must sit, that 4 be named by the one and another by the other
+        LoserPicks two = of("cp0,p0;0-,9-;015;0");
+        lay(two, 0, 0, 0, 1);
+        due(two.kinds(0, 0, 0, 0, 1, 0), 62 - 8);
+        due(two.kinds(0, 0, 0, 0, 1, 1), 0);
+        // before 0 a bitter one alone names 3; 1, who favours it, is named by a plain one, a laugher, a feared one
         LoserPicks y = of("cp0,p0;5-,51,8-,9-;015;0");
         lay(y, 0, 1, 0, 3, 0, 1);
         due(y.kinds(1, 0, 1, 0, 1, 0), 4);

@@ -387,7 +387,7 @@ public final class TermsTest extends Checks {
     /** One act of each kind upon ALL behind one hearing. */
     private static void oneAct(LoserPicks x, int kind) {
         switch (kind) {
-            case 0: due(x.hear(0), 1); break;
+            case 0: due(x.hear(1), 2); break;
             case 1: due(x.swap(2, 6), 1); break;
             case 2: due(x.soothe(4), 6); break;
             case 3: due(x.seat(3), 2); break;
